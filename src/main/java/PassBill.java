@@ -705,12 +705,7 @@ public final class PassBill {
     }
 
     public int act(int body, int act, int x) {
-        bodies.ran = 0;
-        if (!bodies.has(body) || act < 0 || act >= ACTS) {
-            return 0;
-        }
-        bodies.self = body;
-        return bodies.perform(bodies.kinds[body], act, x, 0);
+        return bodies.start(body, act, x);
     }
 
     public int trace(int i) {
@@ -1365,8 +1360,17 @@ public final class PassBill {
             ran++;
         }
 
+        int start(int body, int act, int x) {
+            ran = 0;
+            if (!has(body) || act < 0 || act >= ACTS) {
+                return 0;
+            }
+            self = body;
+            return perform(kinds[body], act, x, 0);
+        }
+
         /** Runs the ACT's body as it is found from a KIND on. */
-        int perform(int from, int act, int x, int depth) {
+        private int perform(int from, int act, int x, int depth) {
             int owner = act < 0 || act >= ACTS ? -1 : ownerOf(from, act);
             if (owner < 0 || depth > DEEPEST_ACT) {
                 return 0;

@@ -403,6 +403,12 @@ public final class PassBillPromises {
         due(15, "freeRate(): NOT, one counts nothing", -2, x.freeRate());
         x.mend(3, 0, 5);
         due(15, "freeRate(): he would go for nothing", 2, x.freeRate());
+        PassBill y = with(1, 61, 61, 61, 61, 61, 61, 61);
+        y.mend(0, 7, 2);
+        lawOf(y, "w?20;1");
+        due(15, "freeRate(): 1 of 141 parts of 2 by 71", 71, y.freeRate());
+        y.mend(0, 7, 3);
+        due(15, "freeRate(): 1 of 141 parts of 3 by 47", 47, y.freeRate());
     }
 
     private static void pools() {
@@ -582,6 +588,10 @@ public final class PassBillPromises {
         due(23, "said(2): none above 0", 0, x.said(2));
         PassBill y = with(51, 51, 51, 50);
         due(23, "said(2): three pairs", 3, y.said(2));
+        y.mend(0, 7, 3);
+        y.mend(0, 9, 1);
+        due(23, "said(1): a SHARE of 1", 0, y.said(1));
+        due(23, "said(2): SHARES of 1", 3, y.said(2));
         due(23, "said(0)", 3, y.said(0));
     }
 
