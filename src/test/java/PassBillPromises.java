@@ -877,6 +877,10 @@ public final class PassBillPromises {
             x.put(0, 2, 256);
             due(41, "256", sort == 0 ? 0 : sort == 4 ? 1 : 256, x.element(0, 2));
         }
+        for (long told : new long[] {1, 0, Long.MIN_VALUE, 0, 1L << 32, 2}) {
+            x.put(0, 2, told);
+            due(41, "a boolean: whether it is not 0", told == 0 ? 0 : 1, x.element(0, 2));
+        }
         shifts(x);
     }
 
