@@ -74,7 +74,7 @@ public final class PassBill {
 
     public int people(int shelf, int i, int n) {
         Shelf from = shelfAt(shelf);
-        if (from == null || i < 0 || n < 1 || n > MOST_PEOPLE) {
+        if (from == null || n < 1 || n > MOST_PEOPLE) {
             return BAD;
         }
         if (from.sort == HOLDS_NOTHING) {
@@ -85,7 +85,7 @@ public final class PassBill {
         }
         int came = 0;
         for (int k = 0; k < n; k++) {
-            if (i > from.size - 3 * (k + 1) || !joinFromRow(from, i + 3 * k)) {
+            if (!from.hasPlaces(i + 3 * k, 3) || !joinFromRow(from, i + 3 * k)) {
                 return came;
             }
             came++;

@@ -642,7 +642,7 @@ final class Model {
     }
 
     int people(int shelf, int i, int n) {
-        if (shelf < 0 || shelf > 5 || i < 0 || n < 1 || n > 8) {
+        if (shelf < 0 || shelf > 5 || n < 1 || n > 8) {
             return BAD;
         }
         if (shelves[shelf] == null) {
@@ -653,7 +653,7 @@ final class Model {
         }
         long[] row = elements(shelf);
         int came = 0;
-        for (long at = i; came < n && at + 2 < row.length; at += 3) {
+        for (long at = i; came < n && at >= 0 && at + 2 < row.length; at += 3) {
             long w = row[(int) at];
             long a = row[(int) at + 1];
             long h = row[(int) at + 2];

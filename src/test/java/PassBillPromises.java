@@ -75,7 +75,9 @@ public final class PassBillPromises {
     private static void people() {
         PassBill x = new PassBill();
         due(3, "nothing there", 0, x.people(0, 0, 8));
-        due(3, "place below 0", -1, x.people(0, -1, 1));
+        due(3, "nothing there, place below 0", 0, x.people(0, -1, 1));
+        due(3, "nothing there, place far below 0", 0, x.people(5, LEAST_INT, 8));
+        due(3, "nothing there, n 0 at a place below 0", -1, x.people(0, -1, 0));
         due(3, "no shelf", -1, x.people(-1, 0, 1));
         due(3, "no shelf", -1, x.people(6, 0, 1));
         due(3, "n 0", -1, x.people(0, 0, 0));
@@ -83,6 +85,10 @@ public final class PassBillPromises {
         fill(x, 0, 0, 5, 40, 1, 9, 99, 3, 0, 0, 0, 7, 7);
         due(3, "beyond the row", 0, x.people(0, 11, 1));
         due(3, "far beyond the row", 0, x.people(0, MOST_INT, 8));
+        due(3, "ahead of the row", 0, x.people(0, -1, 8));
+        due(3, "a three ahead of the row", 0, x.people(0, -3, 8));
+        due(3, "far ahead of the row", 0, x.people(0, LEAST_INT, 8));
+        due(3, "nobody came from outside the row", 0, x.count(0));
         due(3, "all of the row", 3, x.people(0, 0, 8));
         due(3, "of(1, 0)", 9, x.of(1, 0));
         due(3, "of(1, 2)", 99, x.of(1, 2));
@@ -106,7 +112,8 @@ public final class PassBillPromises {
         due(3, "a BODY", -12, x.people(1, 0, 1));
         x.row(1, 4, 3);
         due(3, "booleans", -12, x.people(1, 0, 1));
-        due(3, "BAD ahead of -12", -1, x.people(1, -1, 1));
+        due(3, "booleans, place below 0", -12, x.people(1, -1, 1));
+        due(3, "BAD ahead of -12", -1, x.people(1, -1, 9));
     }
 
     private static void mendAndOf() {
