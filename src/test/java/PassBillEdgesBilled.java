@@ -275,6 +275,9 @@ public final class PassBillEdgesBilled {
         }
         last.mend(7, 4, 0);
         turns("the last of eight counts most", last, 0, 1, 200 * 2 / 14, 7);
+        PassBill idle = Due.with(50, 51, 31);
+        idle.hears(1, 0);
+        turns("who is silent does not help, though he comes first", idle, 1, 1, 200 / 2, 1);
         due.promises(24, "BY TURNS: that (what 0), whom first (1). BAD.");
         for (int what : new int[] {-1, 2, Due.LEAST_INT, Due.MOST_INT}) {
             due.is("what " + what, Due.BAD, three().byTurns(0, 1, what));

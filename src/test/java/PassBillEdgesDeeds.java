@@ -195,6 +195,7 @@ public final class PassBillEdgesDeeds {
             due.is("PURSE", times, x.of(0, PURSE));
         }
         due.says("40 at most are kept;");
+        forgotten();
         PassBill x = changed(40);
         for (int k = 0; k < 40; k++) {
             x.undo();
@@ -205,6 +206,25 @@ public final class PassBillEdgesDeeds {
         due.is("undo()", 1, x.undo());
         due.is("undo()", 0, x.undo());
         due.is("PURSE", 100, x.of(0, PURSE));
+    }
+
+    /** SNOW of the YEARS by turns, so that each change that is kept must know which number it was. */
+    private static void forgotten() {
+        for (int times : new int[] {40, 41, 47, 79}) {
+            PassBill x = new PassBill();
+            for (int k = 0; k < times; k++) {
+                x.mend(k % 8, 7, 21 + k / 8);
+            }
+            for (int k = times - 1; k >= times - 40; k--) {
+                x.undo();
+                due.is("SNOW of " + k % 8 + " behind undo()", 20 + k / 8, x.of(k % 8, 7));
+            }
+            due.is("undo() of no more", Due.STATE, x.undo());
+            for (int y = 0; y < 8; y++) {
+                int told = Math.max(0, times - 40 - y + 7) / 8;
+                due.is("SNOW of " + y + " by what is forgotten of " + times, 20 + told, x.of(y, 7));
+            }
+        }
     }
 
     private static void changes() {

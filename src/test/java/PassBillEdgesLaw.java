@@ -276,6 +276,14 @@ public final class PassBillEdgesLaw {
         counts(times("0?9;", 29) + "1?13", 13);
         counts(times("0?9;", 29) + "0?13", 0);
         counts("0?9;0?9;k=0?(w+a)/5", 7);
+        PassBill x = Due.with(51);
+        for (String longer : new String[] {"1;2;3;4;5;6;7", "7+7;7", "1?2;3?4;5", times("9;", 59) + "9"}) {
+            Due.law(x, longer);
+            due.is("law() of 0?9 behind " + longer, 1, Due.law(x, "0?9"));
+            due.is("none, though a longer law was ahead of it", 0, x.counts(0));
+            Due.law(x, "k;" + longer + "+");
+            due.is("none, though a longer text failed behind it", 0, x.counts(0));
+        }
     }
 
     private static void held() {

@@ -163,6 +163,10 @@ public final class PassBillEdgesNow {
         due.is("HABIT 3, by one less than 2", 0, byOne.atRest());
         due.is("HABIT 3, alike with 2", 1, tied(53, 1, 0).atRest());
         due.is("HABIT 0, alike with 2 and 3", 1, tied(10, 1, 0).atRest());
+        due.is("HABIT 3, to whom only 0 is more", 0, tied(3, 1, 0).atRest());
+        due.is("HABIT 0, to whom only 1 is more", 0, tied(0, 0, 10).atRest());
+        due.is("HABIT 1, to whom only 2 is more", 0, tied(21, 0, 0).atRest() + tied(21, 0, 10).atRest());
+        due.is("HABIT 1, alike with 2", 1, tied(11, 0, 10).atRest());
     }
 
     /** No SNOW, no BOAST, no WISH: every HABIT is worth 0. */
@@ -180,6 +184,14 @@ public final class PassBillEdgesNow {
             for (int k = 0; k < people; k++) {
                 due.is("rest(" + k + ") of " + people, people <= 4 ? 0 : Due.STATE, alike(people, 3).rest(k));
             }
+        }
+        for (int people = 1; people <= 4; people++) {
+            PassBill going = Due.crowd(people, 90);
+            going.mend(0, 10, 0);
+            due.is("rest(-1) of " + people + " to whom 2 and 3 are alike", 1 << people, going.rest(-1));
+            due.is("rest(0)", 2, going.rest(0));
+            PassBill saying = Due.crowd(people, 90);
+            due.is("rest(-1) of " + people + " to whom 2 is best", 1, saying.rest(-1));
         }
         due.says("Nobody: one row of HABITS.");
         due.is("rest(-1) of nobody", 1, new PassBill().rest(-1));
@@ -288,6 +300,10 @@ public final class PassBillEdgesNow {
         PassBill zero = Due.with(91, 1, 31);
         Due.law(zero, "w/3");
         due.is("who is ASSESSED by 0 is not of the POOL", 1, zero.spared());
+        zero.mend(2, 0, 6);
+        due.is("who is ASSESSED by 0 does not make it cheaper", 1, zero.spared());
+        due.is("nor does who is silent, or goes", 1, Due.with(91, 61, 50, 52, 53).spared());
+        due.is("the first is not of the POOL", 2, Due.with(50, 91, 61).spared());
         due.says("SPARED: nobody ASSESSED (by more than 0): none.");
         due.is("nobody", 0, new PassBill().spared());
         due.is("none who stays and says", 0, Due.with(50, 52, 53).spared());

@@ -121,6 +121,20 @@ public final class PassBillEdgesShelves {
         due.is("count(5) of the latest", 1, x.count(5));
     }
 
+    /** Each ACT of each KIND, of BODY 3 with x 7: the bits of the two lie over one another. */
+    private static void values() {
+        due.says("SAYS (an interface of SAYING): 1 says: x + n. SAYING: 10 counts: says(x) * 2. 11 goes: x ^ n. TELLS (of SAYING): 2 tells: counts(x) - goes(1).");
+        int[][] want = {
+            {10, 20, 4, 18}, {13, 26, 4, 24}, {10, -20, 4, -22}, {10, -22, 12, -28}, {13, 26, 4, 24 ^ 5},
+            {10, -22, 12 - 5, -22 - (2 * 3 - 5) + 1}, {20, 40, 4, 38}, {19, 38 + 1, 4, 39 - 2}};
+        for (int kind = 0; kind <= 7; kind++) {
+            for (int act = 0; act <= 3; act++) {
+                PassBill x = bodies(0, 0, 0, kind);
+                due.is("act(3, " + act + ", 7) of KIND " + kind, want[kind][act], x.act(3, act, 7));
+            }
+        }
+    }
+
     private static void traced(int kind, int act, int... numbers) {
         PassBill x = bodies(kind);
         String call = "act " + act + " of KIND " + kind;
@@ -387,11 +401,14 @@ public final class PassBillEdgesShelves {
         due.is("ASSESSED, one is not HEARD", 1, by0.count(1));
         Due.law(by0, "0");
         due.is("ASSESSED by 0", 0, by0.count(1));
+        Due.law(by0, "1");
+        due.is("ASSESSED by 1", 1, by0.count(1));
     }
 
     public static void main(String[] args) {
         body();
         act();
+        values();
         trace();
         keep();
         row();
